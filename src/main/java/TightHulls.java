@@ -178,9 +178,9 @@ public final class TightHulls {
         }
         switch (what) {
             case MAP_ASKED_KEEPS:
-                return oneIf(now.mapKeeps());
+                return oneIf(now.mapHolds(false));
             case MAP_ASKED_SHRINKS:
-                return oneIf(now.mapShrinks());
+                return oneIf(now.mapHolds(true));
             default:
                 return NONE;
         }
@@ -440,7 +440,7 @@ public final class TightHulls {
         if (tapes.holdsNothing(tape)) {
             return NOTHING;
         }
-        return tapes.put(tape, i, v) ? 1 : PLACE;
+        return tapes.change(tape, i, v) ? 1 : PLACE;
     }
 
     public long peek(int tape, int i) {
@@ -1295,21 +1295,12 @@ public final class TightHulls {
             return changed;
         }
 
-        boolean mapKeeps() {
+        /** Whether the MAP leaves DISTANCES as they are, or SHRINKS them where it may. */
+        boolean mapHolds(boolean mayShrink) {
             for (int x = 0; x < table.size; x++) {
                 for (int y = x + 1; y < table.size; y++) {
-                    if (table.gap(images[x], images[y]) != table.gap(x, y)) {
-                        return false;
-                    }
-                }
-            }
-            return true;
-        }
-
-        boolean mapShrinks() {
-            for (int x = 0; x < table.size; x++) {
-                for (int y = x + 1; y < table.size; y++) {
-                    if (table.gap(images[x], images[y]) > table.gap(x, y)) {
+                    int grown = table.gap(images[x], images[y]) - table.gap(x, y);
+                    if (grown > 0 || (grown < 0 && !mayShrink)) {
                         return false;
                     }
                 }
@@ -1571,7 +1562,7 @@ public final class TightHulls {
             return 1;
         }
 
-        boolean put(int tape, int i, long v) {
+        boolean change(int tape, int i, long v) {
             if (!hasItem(tape, i)) {
                 return false;
             }
