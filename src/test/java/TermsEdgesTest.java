@@ -313,6 +313,13 @@ public final class TermsEdgesTest {
         due(cornerWith(two, 2, 2, 2, 4, 4), -1);
         due(two.corners(), 7);
         due(cornerWith(two, 2, 2, 2, 2, 6) >= 0 && cornerWith(two, 2, 2, 2, 6, 2) >= 0 ? 1 : 0, 1);
+        // of five, of which one is as far from the others as may be: 0 1 2 3 4 and back, 4 2 1 0 3 and back
+        TightHulls far = Edge.with(5, 40, 39, 39, 40, 2, 1, 1, 2, 1, 2);
+        due(far.told(1), 1);
+        due(far.corner(cornerWith(far, 78, 2, 2, 2, 2), 0), 5);
+        TightHulls last = Edge.with(5, 2, 1, 2, 39, 2, 1, 39, 1, 40, 40);
+        due(last.told(1), 1);
+        due(last.corner(cornerWith(last, 2, 2, 2, 2, 78), 0), 5);
         for (int n = 3; n <= 5; n++) for (int ties = 0; ties < 1 << n * (n - 1) / 2; ties++) cornerByTies(n, ties);
     }
 
